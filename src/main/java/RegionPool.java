@@ -546,7 +546,6 @@ public final class RegionPool {
             regions--;
             int pages = lengths[regions];
             freePagesBehind(regions, 0, pages);
-            emptyRow(regions);
             return pages;
         }
 
@@ -1039,28 +1038,29 @@ public final class RegionPool {
         }
 
         void transfer(int region) {
-            memory.startMoves();
+            placeAll(region);
             for (int k = 0; k < length; k++) {
-                int place = memory.regions.takePlaces(region, memory.heap.sizeOf(items[k]));
-                if (place != NONE) {
-                    memory.heap.carry(items[k], place);
-                    memory.noteMove(items[k], place);
-                }
+                memory.heap.carry(items[k], memory.newPlaceOf(items[k]));
             }
             memory.followAllMoves();
         }
 
         void duplicate(int region) {
+            placeAll(region);
+            for (int k = 0; k < length; k++) {
+                int twin = memory.newPlaceOf(items[k]);
+                memory.heap.duplicate(items[k], twin);
+                followFieldsOf(twin);
+            }
+        }
+
+        private void placeAll(int region) {
             memory.startMoves();
             for (int k = 0; k < length; k++) {
                 int place = memory.regions.takePlaces(region, memory.heap.sizeOf(items[k]));
                 if (place != NONE) {
-                    memory.heap.duplicate(items[k], place);
                     memory.noteMove(items[k], place);
                 }
-            }
-            for (int k = 0; k < length; k++) {
-                followFieldsOf(memory.newPlaceOf(items[k]));
             }
         }
 
