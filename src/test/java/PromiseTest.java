@@ -1,19 +1,5 @@
 /** Each promise of the document by itself: ordinary inputs, the edges that it names, and wrong inputs. */
-public final class PromiseTest {
-    private static final int NONE = RegionPool.NONE;
-    private static final int REFUSED = RegionPool.REFUSED;
-    private static final int PLAIN = 0;
-    private static final int WEAK = 1;
-    private static final int KEYED = 2;
-    private static final int[] NO_ROOTS = {-1, 16, Integer.MIN_VALUE, Integer.MAX_VALUE};
-
-    private static int wrong = 0;
-    private static String promise = "";
-
-    private interface Call {
-        void run();
-    }
-
+public final class PromiseTest extends Checks {
     public static void main(String[] args) {
         newObject();
         open();
@@ -50,69 +36,7 @@ public final class PromiseTest {
         page();
         at();
         count();
-        if (wrong != 0) {
-            System.out.println(wrong + " answers are not as due");
-            System.exit(1);
-        }
-    }
-
-    private static void of(String name) {
-        promise = name;
-    }
-
-    private static void is(String call, int got, int due) {
-        if (got != due) {
-            wrong++;
-            System.out.println(promise + ": " + call + " is " + got + ", due is " + due);
-        }
-    }
-
-    private static void is(String call, boolean got, boolean due) {
-        is(call, got ? 1 : 0, due ? 1 : 0);
-    }
-
-    private static void fails(String call, Class<? extends RuntimeException> due, Call it) {
-        String got = "nothing";
-        try {
-            it.run();
-        } catch (RuntimeException e) {
-            got = e.getClass().getName();
-        }
-        if (!got.equals(due.getName())) {
-            wrong++;
-            System.out.println(promise + ": " + call + " throws " + got + ", due is " + due.getName());
-        }
-    }
-
-    private static void noRoot(String call, Call it) {
-        fails(call, IndexOutOfBoundsException.class, it);
-    }
-
-    private static void badArgument(String call, Call it) {
-        fails(call, IllegalArgumentException.class, it);
-    }
-
-    private static void noReference(String call, Call it) {
-        fails(call, IllegalStateException.class, it);
-    }
-
-    private static RegionPool withRegions(int regions) {
-        RegionPool x = new RegionPool();
-        for (int r = 0; r < regions; r++) {
-            x.open();
-        }
-        return x;
-    }
-
-    // Root 0 holds a chain of plain objects that fill as many pages of a region.
-    private static void fillPages(RegionPool x, int region, int pages) {
-        x.clear(0);
-        for (int k = 0; k < pages; k++) {
-            x.make(1, region, PLAIN, k, 15);
-            x.put(1, 0, 0);
-            x.move(0, 1);
-        }
-        x.clear(1);
+        finish();
     }
 
     private static void newObject() {
