@@ -268,6 +268,34 @@ public final class CollectBoundaryTest extends Checks {
         x.clear(9);
     }
 
+    static void promise04WhatIsBehindAKeyHoldsFurther() {
+        says("those to which a field that holds of a live one refers (the least such set)");
+        RegionPool x = withRegions(1);
+        x.make(0, 0, WEAK, 0, 4);
+        x.make(15, 0, PLAIN, 1, 4);
+        x.make(8, 0, PLAIN, 2, 0);
+        x.move(9, 8);
+        for (int k = 0; k < 4; k++) {
+            x.make(1, 0, KEYED, 10 + k, 2);
+            x.make(2, 0, PLAIN, 20 + k, 1);
+            x.make(3, 0, PLAIN, 30 + k, 0);
+            x.put(15, k, 1);
+            x.put(1, 0, 9);
+            x.put(1, 1, 2);
+            x.put(2, 0, 3);
+            x.put(0, k, 3);
+            x.move(9, 3);
+        }
+        clearRoots(x, 1, 3);
+        x.clear(9);
+        is("each key is held behind the one before it", x.collect(0), 0);
+        for (int k = 0; k < 4; k++) {
+            is("a weak one keeps key " + k, x.field(0, k, 2), 30 + k);
+        }
+        x.clear(8);
+        is("without the first key", x.collect(0), 9);
+    }
+
     static void promise04AKeyInANewerRegionCantBe() {
         says("An object refers to objects of its own region and of those that are not newer, alone.");
         RegionPool x = withRegions(2);
@@ -501,6 +529,23 @@ public final class CollectBoundaryTest extends Checks {
         is("what is behind it", x.field(0, 1, 2), 3);
     }
 
+    static void promise04KeyedFieldsStayIfAQueuedOneHoldsTheKey() {
+        says("then LIVE is found again (they are, and what they hold, ..)");
+        RegionPool x = withRegions(1);
+        x.make(0, 0, KEYED, 1, 2);
+        x.make(1, 0, PLAIN, 2, 0);
+        x.make(2, 0, PLAIN, 3, 1);
+        x.number(3, 9);
+        x.put(0, 0, 1);
+        x.put(0, 1, 3);
+        x.put(2, 0, 1);
+        x.watch(2);
+        clearRoots(x, 1, 2);
+        is("collect(0)", x.collect(0), 0);
+        is("the key", x.field(0, 0, 2), 2);
+        is("a number behind it", x.field(0, 1, 1), 9);
+    }
+
     static void promise04KeyedOnesThatBecameLiveLoseTheirs() {
         says("All fields of live KEYED young objects, of which the key refers to one that is not live, become NIL");
         RegionPool x = withRegions(1);
@@ -515,6 +560,26 @@ public final class CollectBoundaryTest extends Checks {
         x.due(0);
         is("field 0", x.field(0, 0, 0), 0);
         is("field 1", x.field(0, 1, 0), 0);
+    }
+
+    static void promise04KeyedOnesThatAQueuedOneHoldsLoseTheirs() {
+        says("All fields of live KEYED young objects, of which the key refers to one that is not live, become NIL");
+        RegionPool x = withRegions(1);
+        x.make(0, 0, PLAIN, 1, 1);
+        x.make(1, 0, KEYED, 2, 2);
+        x.make(2, 0, PLAIN, 3, 0);
+        x.number(3, 5);
+        x.put(0, 0, 1);
+        x.put(1, 0, 2);
+        x.put(1, 1, 3);
+        x.watch(0);
+        clearRoots(x, 0, 2);
+        is("the key is gone", x.collect(0), 1);
+        x.due(0);
+        x.get(1, 0, 0);
+        is("the keyed one is there", x.root(1, 3), 2);
+        is("field 0", x.field(1, 0, 0), 0);
+        is("field 1", x.field(1, 1, 0), 0);
     }
 
     static void promise04WeakOnesThatBecameLiveLoseTheirs() {
@@ -720,6 +785,41 @@ public final class CollectBoundaryTest extends Checks {
         is("the watched one", x.root(1, 6), 1);
         is("the one behind it, at its old place", x.root(2, 6), 0);
         is("watch(1)", x.watch(1), false);
+    }
+
+    static void promise04ReferencesFollowEachTime() {
+        says("All references follow.");
+        RegionPool x = withRegions(2);
+        x.make(0, 1, PLAIN, 1, 1);
+        x.lift(0, 0);
+        x.make(1, 1, PLAIN, 2, 1);
+        x.put(1, 0, 1);
+        x.collect(1);
+        is("slid to where one was lifted from", x.root(1, 1), 0);
+        x.collect(1);
+        is("it stays there", x.root(1, 1), 0);
+        is("its field", x.field(1, 0, 1), 0);
+        x.collect(0);
+        is("it stays there", x.root(1, 1), 0);
+        is("the one that was lifted", x.root(0, 1), 16);
+    }
+
+    static void promise04TheLastPlaceOfThePool() {
+        says("page p the places 16 * p .. 16 * p + 15");
+        for (int kind = 0; kind <= 2; kind++) {
+            RegionPool x = withRegions(1);
+            fillPages(x, 0, 39);
+            x.make(2, 0, kind, 1, 6);
+            x.make(3, 0, kind, 2, 8);
+            x.put(3, 7, 3);
+            x.put(3, 0, 2);
+            is("it ends at place 639", x.root(3, 1), 631);
+            x.clear(2);
+            is("collect(0)", x.collect(0), kind == PLAIN ? 0 : 1);
+            is("its place", x.root(3, 1), kind == PLAIN ? 631 : 624);
+            is("its last field", x.field(3, 7, 0), kind == KEYED ? 0 : 2);
+            is("its first field", x.field(3, 0, 0), kind == PLAIN ? 2 : 0);
+        }
     }
 
     static void promise04OlderRegionsDoNotSlide() {

@@ -114,6 +114,41 @@ public final class LiftBoundaryTest extends Checks {
         }
     }
 
+    static void promise11PartsAreFoundAnew() {
+        says("its PARTS are the object to which it refers, if that is in a region newer than r");
+        RegionPool x = linked(4);
+        x.copy(5, 0, 0);
+        is("the last one alone", x.lift(3, 0), 1);
+        is("the third one stays", x.root(2, 5), 1);
+        is("the last two, of which one is lifted", x.lift(2, 0), 1);
+        is("the rest", x.lift(0, 0), 2);
+    }
+
+    // Roots 0 .. objects - 1 in region 1: each refers to the next one.
+    private static RegionPool linked(int objects) {
+        RegionPool x = withRegions(2);
+        for (int k = 0; k < objects; k++) {
+            x.make(k, 1, PLAIN, k, 1);
+        }
+        for (int k = 0; k < objects - 1; k++) {
+            x.put(k, 0, k + 1);
+        }
+        return x;
+    }
+
+    static void promise11ToTheLeastFreePage() {
+        says("else at the beginning of the least free page, which comes to the end of the row then");
+        RegionPool x = withRegions(3);
+        x.make(0, 2, PLAIN, 1, 0);
+        x.make(1, 1, PLAIN, 2, 1);
+        x.put(1, 0, 1);
+        x.close();
+        is("lift(1, 0)", x.lift(1, 0), 1);
+        is("its place", x.root(1, 1), 0);
+        is("its field", x.field(1, 0, 1), 0);
+        is("page(0, 0)", x.page(0, 0), 0);
+    }
+
     static void promise11JustRoom() {
         says("There is room if all could be placed in r, in their order, as it is now.");
         RegionPool x = withRegions(2);
@@ -198,6 +233,34 @@ public final class LiftBoundaryTest extends Checks {
         is("4 places", x.lift(3, 0), 1);
         is("its place", x.root(3, 1), 38 * 16 + 12);
         is("no place is left", x.lift(4, 0), NONE);
+    }
+
+    static void promise11NoRoomInARegionWithoutAPage() {
+        says("Without a free page there is no room.");
+        RegionPool x = withRegions(3);
+        fillPages(x, 0, 39);
+        x.make(2, 2, PLAIN, 1, 0);
+        is("to region 1", x.lift(2, 1), NONE);
+        is("it has no page still", x.region(1, 0), 0);
+        x.get(0, 0, 0);
+        x.collect(0);
+        is("a page is free", x.lift(2, 1), 1);
+        is("its place", x.root(2, 1), 38 * 16);
+    }
+
+    static void promise11LiftedPlacesAreNoRoomForALift() {
+        says("these places are not used again until the region is collected, or goes");
+        RegionPool x = withRegions(3);
+        x.make(0, 1, PLAIN, 1, 4);
+        x.make(1, 2, PLAIN, 2, 4);
+        x.make(2, 2, PLAIN, 3, 0);
+        x.lift(0, 0);
+        is("to a region from which one was lifted", x.lift(1, 1), 1);
+        is("behind where that was", x.root(1, 1), 5);
+        x.collect(1);
+        is("when it is collected", x.root(1, 1), 0);
+        is("the next one", x.lift(2, 1), 1);
+        is("behind it", x.root(2, 1), 5);
     }
 
     static void promise11NoneChangesNothing() {
@@ -444,6 +507,46 @@ public final class LiftBoundaryTest extends Checks {
         is("the queue's one is the part", x.root(1, 5), 1);
     }
 
+    static void promise12PartsAreFoundAnew() {
+        says("parts stay where they are");
+        RegionPool x = linked(3);
+        is("three", x.copy(5, 0, 0), 3);
+        is("the last one alone", x.copy(6, 2, 0), 1);
+        is("the last two", x.copy(7, 1, 0), 2);
+        is("the first part's field", x.field(0, 0, 1), 2);
+        is("the second part's field", x.field(1, 0, 1), 4);
+        is("the first copy's field", x.field(5, 0, 1), 18);
+        is("the last copy's field", x.field(7, 0, 1), 26);
+    }
+
+    static void promise12ToTheLeastFreePage() {
+        says("else at the beginning of the least free page, which comes to the end of the row then");
+        RegionPool x = withRegions(3);
+        x.make(0, 2, PLAIN, 1, 0);
+        x.make(1, 1, PLAIN, 2, 1);
+        x.put(1, 0, 1);
+        x.close();
+        is("copy(2, 1, 0)", x.copy(2, 1, 0), 1);
+        is("its place", x.root(2, 1), 0);
+        is("its field", x.field(2, 0, 1), 0);
+        is("the part's field", x.field(1, 0, 1), 16);
+    }
+
+    static void promise12TheLastPlaceOfThePool() {
+        says("page p the places 16 * p .. 16 * p + 15");
+        for (int kind = 0; kind <= 2; kind++) {
+            RegionPool x = withRegions(2);
+            fillPages(x, 0, 38);
+            x.make(2, 1, kind, 1, 15);
+            x.put(2, 14, 2);
+            is("copy(3, 2, 0)", x.copy(3, 2, 0), 1);
+            is("it ends at place 639", x.root(3, 1), 624);
+            is("its last field", x.field(3, 14, 1), 624);
+            is("alike(2, 3)", x.alike(2, 3), true);
+            is("no room for one more", x.copy(4, 2, 0), NONE);
+        }
+    }
+
     static void promise12OntoTheSameRoot() {
         says("Root to becomes a copy, in a region, of what root from is");
         RegionPool x = withRegions(2);
@@ -468,6 +571,21 @@ public final class LiftBoundaryTest extends Checks {
         is("the root stays", x.root(6, 0), 0);
         is("one of 1 place", x.copy(6, 1, 0), NONE);
         is("count(7)", x.count(7), 2);
+    }
+
+    static void promise12RoomBehindTheLatestOne() {
+        says("behind the latest one in the last page of its row, if n + 1 places are left in that");
+        RegionPool x = withRegions(2);
+        fillPages(x, 0, 38);
+        x.make(2, 0, PLAIN, 1, 11);
+        x.make(3, 1, PLAIN, 2, 1);
+        x.make(4, 1, PLAIN, 3, 2);
+        is("no page is free", x.count(1), 0);
+        is("2 places, 4 are left", x.copy(5, 3, 0), 1);
+        is("3 places, 2 are left", x.copy(6, 4, 0), NONE);
+        is("2 places", x.copy(7, 3, 0), 1);
+        is("its place", x.root(7, 1), 38 * 16 + 14);
+        is("2 places, none is left", x.copy(8, 3, 0), NONE);
     }
 
     static void promise12NoneAndTheRootStays() {

@@ -402,6 +402,18 @@ public final class RootsBoundaryTest extends Checks {
         is("NIL", y.root(1, 0), 0);
     }
 
+    static void promise14WithoutOneNothingChanges() {
+        says("0, and the root stays, without one.");
+        Made made = () -> {
+            RegionPool x = busy();
+            x.due(10);
+            return x;
+        };
+        for (int root : new int[] {0, 6, 9, 15}) {
+            changesNothing("due(" + root + ")", made, x -> x.due(root));
+        }
+    }
+
     static void promise14TheQueueHoldsItNoMore() {
         says("The first one of the queue goes to a root");
         RegionPool x = queueOfThree();

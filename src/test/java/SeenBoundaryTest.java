@@ -238,6 +238,13 @@ public final class SeenBoundaryTest extends Checks {
         }
     }
 
+    static void promise16NoneChangesNothing() {
+        says("what throws, or answers NONE or REFUSED, changes nothing");
+        changesNothing("root(16, 0)", Checks::busy, x -> x.root(16, 0));
+        changesNothing("root(0, 7)", Checks::busy, x -> x.root(0, 7));
+        changesNothing("root(6, 2)", Checks::busy, x -> x.root(6, 2));
+    }
+
     // ---- 17: field
 
     static void promise17SortsContentsAndTags() {
@@ -313,6 +320,14 @@ public final class SeenBoundaryTest extends Checks {
         }
     }
 
+    static void promise17NoneChangesNothing() {
+        says("what throws, or answers NONE or REFUSED, changes nothing");
+        changesNothing("field(-1, 0, 0)", Checks::busy, x -> x.field(-1, 0, 0));
+        changesNothing("field(0, 3, 0)", Checks::busy, x -> x.field(0, 3, 0));
+        changesNothing("field(0, 0, 3)", Checks::busy, x -> x.field(0, 0, 3));
+        changesNothing("field(6, 0, 0)", Checks::busy, x -> x.field(6, 0, 0));
+    }
+
     // ---- 18: region
 
     static void promise18OfAnEmptyRegion() {
@@ -384,6 +399,12 @@ public final class SeenBoundaryTest extends Checks {
         }
     }
 
+    static void promise18NoneChangesNothing() {
+        says("what throws, or answers NONE or REFUSED, changes nothing");
+        changesNothing("region(3, 0)", Checks::busy, x -> x.region(3, 0));
+        changesNothing("region(0, 4)", Checks::busy, x -> x.region(0, 4));
+    }
+
     // ---- 19: page
 
     static void promise19TheFirstAndTheLastPage() {
@@ -426,6 +447,12 @@ public final class SeenBoundaryTest extends Checks {
         is("page(1, 0) of one that went", x.page(1, 0), NONE);
         x.open();
         is("page(1, 0) of a new one", x.page(1, 0), NONE);
+    }
+
+    static void promise19NoneChangesNothing() {
+        says("what throws, or answers NONE or REFUSED, changes nothing");
+        changesNothing("page(0, 40)", Checks::busy, x -> x.page(0, 40));
+        changesNothing("page(3, 0)", Checks::busy, x -> x.page(3, 0));
     }
 
     // ---- 20: at
@@ -483,6 +510,12 @@ public final class SeenBoundaryTest extends Checks {
         is("until it is collected", x.at(0), 1);
         x.collect(0);
         is("then", x.at(0), NONE);
+    }
+
+    static void promise20NoneChangesNothing() {
+        says("what throws, or answers NONE or REFUSED, changes nothing");
+        changesNothing("at(640)", Checks::busy, x -> x.at(640));
+        changesNothing("at(-1)", Checks::busy, x -> x.at(-1));
     }
 
     // ---- 21: count
@@ -571,22 +604,9 @@ public final class SeenBoundaryTest extends Checks {
         is("none is queued", x.count(9), 0);
     }
 
-    static void promise16AllThatIsSeenChangesNothing() {
-        says("---- what is seen");
-        changesNothing("questions", Checks::busy, x -> {
-            x.root(0, 1);
-            x.field(0, 1, 1);
-            x.region(1, 3);
-            x.page(1, 0);
-            x.at(16);
-            x.count(2);
-        });
-        Use[] wrongOnes = {
-            x -> x.root(16, 0), x -> x.root(0, 7), x -> x.field(-1, 0, 0), x -> x.field(0, 9, 0),
-            x -> x.region(3, 0), x -> x.page(0, 40), x -> x.at(640), x -> x.count(10),
-        };
-        for (int k = 0; k < wrongOnes.length; k++) {
-            changesNothing("wrong question " + k, Checks::busy, wrongOnes[k]);
-        }
+    static void promise21NoneChangesNothing() {
+        says("what throws, or answers NONE or REFUSED, changes nothing");
+        changesNothing("count(10)", Checks::busy, x -> x.count(10));
+        changesNothing("count(-1)", Checks::busy, x -> x.count(-1));
     }
 }
