@@ -1,7 +1,7 @@
 /** The boundary cases of promise 4, and of what is said of collecting: each sentence in a test of its own. */
 public final class CollectBoundaryTest extends Checks {
     public static void main(String[] args) {
-        runSentences(CollectBoundaryTest.class);
+        runSentences(CollectBoundaryTest.class, 4);
     }
 
     // ---- from which region on

@@ -1,7 +1,7 @@
 /** The boundary cases of promises 11 and 12, each sentence in a test of its own. */
 public final class LiftBoundaryTest extends Checks {
     public static void main(String[] args) {
-        runSentences(LiftBoundaryTest.class);
+        runSentences(LiftBoundaryTest.class, 11, 12);
     }
 
     // ---- 11: lift

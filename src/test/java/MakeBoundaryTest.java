@@ -1,7 +1,7 @@
 /** The boundary cases of promise 8, and of what is said of placing: each sentence in a test of its own. */
 public final class MakeBoundaryTest extends Checks {
     public static void main(String[] args) {
-        runSentences(MakeBoundaryTest.class);
+        runSentences(MakeBoundaryTest.class, 8);
     }
 
     // ---- where an object is placed

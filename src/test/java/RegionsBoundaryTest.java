@@ -1,7 +1,7 @@
 /** The boundary cases of promises 1 to 3, each sentence in a test of its own. */
 public final class RegionsBoundaryTest extends Checks {
     public static void main(String[] args) {
-        runSentences(RegionsBoundaryTest.class);
+        runSentences(RegionsBoundaryTest.class, 1, 2, 3);
     }
 
     // ---- 1: a new object

@@ -3,7 +3,7 @@ public final class RootsBoundaryTest extends Checks {
     private static final int[] NUMBERS = {0, 1, -1, -2, LEAST, MOST};
 
     public static void main(String[] args) {
-        runSentences(RootsBoundaryTest.class);
+        runSentences(RootsBoundaryTest.class, 5, 6, 7, 9, 10, 13, 14);
     }
 
     // ---- 5: clear

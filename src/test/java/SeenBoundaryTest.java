@@ -1,7 +1,7 @@
 /** The boundary cases of promises 15 to 21, each sentence in a test of its own. */
 public final class SeenBoundaryTest extends Checks {
     public static void main(String[] args) {
-        runSentences(SeenBoundaryTest.class);
+        runSentences(SeenBoundaryTest.class, 15, 16, 17, 18, 19, 20, 21);
     }
 
     // ---- 15: alike
