@@ -32,20 +32,29 @@ abstract class Checks {
 
     /** Each method named after a promise is a test of one sentence; each of these promises has one. */
     static void runSentences(Class<?> tests, int... promises) {
-        Method[] methods = tests.getDeclaredMethods();
-        Arrays.sort(methods, Comparator.comparing(Method::getName));
         for (int promise : promises) {
-            String name = String.format("promise%02d[A-Z].*", promise);
-            int run = 0;
-            for (Method method : methods) {
-                if (method.getName().matches(name)) {
-                    runSentence(method);
-                    run++;
-                }
-            }
-            is("that promise " + promise + " has tests", run > 0, true);
+            runNamed(tests, String.format("promise%02d", promise));
         }
         finish();
+    }
+
+    /** Likewise for what the document says ahead of its promises. */
+    static void runTerms(Class<?> tests) {
+        runNamed(tests, "term");
+        finish();
+    }
+
+    private static void runNamed(Class<?> tests, String beginning) {
+        Method[] methods = tests.getDeclaredMethods();
+        Arrays.sort(methods, Comparator.comparing(Method::getName));
+        int run = 0;
+        for (Method method : methods) {
+            if (method.getName().matches(beginning + "[A-Z].*")) {
+                runSentence(method);
+                run++;
+            }
+        }
+        is("that there are tests named " + beginning, run > 0, true);
     }
 
     private static void runSentence(Method method) {
