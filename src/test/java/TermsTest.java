@@ -1,4 +1,4 @@
-/** What the document says ahead of its promises, each sentence in a test of its own. */
+/** Sentences ahead of the document's promises that the boundary tests do not quote, or not for all regions and kinds. */
 public final class TermsTest extends Checks {
     public static void main(String[] args) {
         runTerms(TermsTest.class);
